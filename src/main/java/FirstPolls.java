@@ -831,6 +831,12 @@ public final class FirstPolls {
         return sign >= '0' && sign <= '9';
     }
 
+    private static void unset(boolean[] flags) {
+        for (int i = 0; i < flags.length; i++) {
+            flags[i] = false;
+        }
+    }
+
     private static boolean canBeName(int house, int age, int kind, int letters) {
         if (!isBelow(house, HOUSES) || !isBelow(age, AGES) || !isBelow(kind, KINDS)) {
             return false;
@@ -1630,8 +1636,8 @@ public final class FirstPolls {
 
         // From the TEXT told last to the first, for only a later one can strike.
         private void findInForce() {
-            Arrays.fill(struck, false);
-            Arrays.fill(inForce, false);
+            unset(struck);
+            unset(inForce);
             for (int text = land.texts.size() - 1; text >= 0; text--) {
                 if (land.texts.get(text, TEXT_FROM) <= day) {
                     putInForce(text);
@@ -1819,11 +1825,13 @@ public final class FirstPolls {
         private final boolean[] again = new boolean[BOOTHS];
         private final int[] voidMarks = new int[BOOTHS];
         private final int[] valid = new int[BOOTHS * SYMBOLS];
+        private final int[] seatSums = new int[SEATS * SYMBOLS];
         // Which tellings COUNTED stand; a later one of the same BOX, SYMBOL, MARK hides others.
         private final boolean[] stands = new boolean[COUNTS];
         private final int[] toldLast = new int[BOXES * SYMBOLS * MARKS];
         private final int[] groups = new int[BOOTHS];
         private int lastWhole = NONE;
+        // By SYMBOLS, in what is being joined or over all SEATS.
         private final int[] sums = new int[SYMBOLS];
 
         Tally(Land land, View view) {
@@ -1867,7 +1875,7 @@ public final class FirstPolls {
         }
 
         private void readHanded() {
-            Arrays.fill(sealBroken, false);
+            unset(sealBroken);
             for (int i = 0; i < land.handed.size(); i++) {
                 int booth = land.boxes.get(land.handed.get(i, HANDED_BOX), BOX_BOOTH);
                 if (land.handed.get(i, HANDED_KNOWN) <= view.known() && isBooth(booth)
@@ -1879,7 +1887,7 @@ public final class FirstPolls {
 
         private void readCounts() {
             Arrays.fill(put, 0);
-            Arrays.fill(stands, false);
+            unset(stands);
             int tellings = Math.min(land.counts.size(), COUNTS);
             for (int i = tellings - 1; i >= 0; i--) {
                 int booth = land.boothOfTelling(i);
@@ -1929,6 +1937,7 @@ public final class FirstPolls {
 
         private void addValid() {
             Arrays.fill(valid, 0);
+            Arrays.fill(seatSums, 0);
             int tellings = Math.min(land.counts.size(), COUNTS);
             for (int i = 0; i < tellings; i++) {
                 int booth = land.boothOfTelling(i);
@@ -1937,8 +1946,16 @@ public final class FirstPolls {
                     continue;
                 }
                 if ((voidMarks[booth] & (1 << land.counts.get(i, COUNT_MARK))) == 0) {
-                    valid[booth * SYMBOLS + symbol] += land.counts.get(i, COUNT_NUMBER);
+                    addTo(booth, symbol, land.counts.get(i, COUNT_NUMBER));
                 }
+            }
+        }
+
+        private void addTo(int booth, int symbol, int papers) {
+            int seat = seatOf(booth);
+            valid[booth * SYMBOLS + symbol] += papers;
+            if (seat >= 0 && seat < SEATS) {
+                seatSums[seat * SYMBOLS + symbol] += papers;
             }
         }
 
@@ -1999,13 +2016,8 @@ public final class FirstPolls {
         // ---- a SEAT ----
 
         int sumOf(int seat, int symbol) {
-            int sum = 0;
-            for (int booth = 0; booth < boothsInAll(); booth++) {
-                if (seatOf(booth) == seat) {
-                    sum += validOf(booth, symbol);
-                }
-            }
-            return sum;
+            boolean is = seat >= 0 && seat < SEATS && symbol >= 0 && symbol < SYMBOLS;
+            return is ? seatSums[seat * SYMBOLS + symbol] : 0;
         }
 
         private boolean mayStand(int seat, int symbol) {
@@ -2147,12 +2159,12 @@ public final class FirstPolls {
 
         private int sumByAllSeats() {
             int all = 0;
-            Arrays.fill(sums, 0);
-            for (int booth = 0; booth < boothsInAll(); booth++) {
-                for (int symbol = 0; symbol < SYMBOLS; symbol++) {
-                    sums[symbol] += validOf(booth, symbol);
-                    all += validOf(booth, symbol);
+            for (int symbol = 0; symbol < SYMBOLS; symbol++) {
+                sums[symbol] = 0;
+                for (int seat = 0; seat < SEATS; seat++) {
+                    sums[symbol] += sumOf(seat, symbol);
                 }
+                all += sums[symbol];
             }
             return all;
         }
