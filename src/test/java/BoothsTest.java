@@ -104,6 +104,22 @@ public final class BoothsTest {
         Check.due("no names ahead of known", y.booths(0, 0), 3);
     }
 
+    private static void longWays() {
+        FirstPolls x = new FirstPolls();
+        Check.orders(x, 0, "on;most 2;far 198;far 0 if place=2");
+        int[][] at = {{0, 0}, {99, 99}, {0, 99}, {99, 0}, {0, 0}, {99, 99}, {50, 50}};
+        for (int i = 0; i < at.length; i++) {
+            x.place(0, at[i][0], at[i][1]);
+            x.name(i, 0, 30, 0, ANNA, 0);
+            x.wish(i);
+        }
+        Check.due("four of seven", x.booths(0, 0), 0b0001111);
+        row(x, 99, 0, 1, 2, 3, 0, 1, 2);
+        Check.due("far ways", x.judge(0b1010101, 0, 0), 296);
+        Check.due("too few for most", x.judge(0b0000111, 0, 0), NONE);
+        Check.due("without the one that must be", x.judge(0b1111011, 0, 0), NONE);
+    }
+
     private static void latestBooths() {
         FirstPolls x = rowOf("on;off if day>5;most 1 if day=3;far 0 if day=3", 2, 1);
         Check.due("booths", x.booths(0, 0), 0b01);
@@ -351,6 +367,7 @@ public final class BoothsTest {
         promise21();
         promise22And23();
         farOfThePlace();
+        longWays();
         latestBooths();
         promise24();
         promise25And26();

@@ -148,6 +148,10 @@ public final class OrdersTest {
         Check.due("the longest text", x.all(8), 0);
         Check.fine(x, "on" + Check.times(" ", 398));
         Check.faulty(x, Check.times(" ", 400), 400);
+        Check.faulty(x, Check.times("+", 400), 0);
+        Check.faulty(x, "on" + Check.times(";", 398), 3);
+        Check.fine(x, "on if " + Check.times("not(", 8) + "1=1" + Check.times(")", 8) + "and"
+                + Check.times("(not1=1)and", 23) + "1=1");
     }
 
     private static void promise18() {
@@ -165,7 +169,10 @@ public final class OrdersTest {
         Check.due("the strike is struck", x.force(1, 0, 7), 0);
         Check.due("so what it struck is in force", x.force(0, 1, 7), 1);
         Check.due("and on the last day", x.force(0, 1, 399), 1);
-        Check.due("no such text", x.force(3, 0, 0), NONE);
+        Check.orders(x, 0, "strike 3 clause 1;on;strike 3 clause 3;on");
+        Check.due("it strikes none of its own text", x.force(3, 1, 0), 1);
+        Check.due("it strikes none of its own text", x.force(3, 3, 0), 1);
+        Check.due("no such text", x.force(4, 0, 0), NONE);
         Check.due("no such text", x.force(-1, 0, 0), NONE);
         Check.due("no such clause", x.force(0, 2, 0), NONE);
         Check.due("no such clause", x.force(0, -1, 0), NONE);
