@@ -269,6 +269,12 @@ public final class BoothsTest {
         y.hand(0, 3, 5, 11, 0);
         y.hand(0, 4, 5, 12, 0);
         Check.due("of the same day as told", y.broken(0, 0, 1), 3);
+        y.hand(1, 5, 15, 22, 0);
+        y.hand(1, 6, 10, 22, 0);
+        y.hand(1, 7, 20, 23, 0);
+        y.hand(1, 8, 12, 22, 0);
+        y.hand(1, 9, 30, 22, 0);
+        Check.due("the one just ahead, told first", y.broken(1, 0, 1), 5);
     }
 
     private static void promise30() {
