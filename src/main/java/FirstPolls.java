@@ -1736,17 +1736,13 @@ public final class FirstPolls {
             asked.tell(W_SEAT, land.seatOfPlace(place));
         }
 
-        private void tellPlace(int place) {
+        /** Asks of a PLACE from now on, or of a BOOTH there, the rest of which is told by word. */
+        void tellPlace(int place) {
             asked.forget();
             asked.tell(W_DAY, day);
             asked.tell(W_PLACE, place);
             asked.tell(W_SEAT, land.seatOfPlace(place));
             asked.tell(W_NAMES, namesAt(place));
-        }
-
-        /** Asks of a BOOTH in a PLACE from now on; the rest of it is told by word. */
-        void tellBoothAt(int place) {
-            tellPlace(place);
         }
 
         void tell(int word, int value) {
@@ -1915,7 +1911,7 @@ public final class FirstPolls {
             if (!isBooth(booth)) {
                 return;
             }
-            view.tellBoothAt(land.booths.get(booth, BOOTH_PLACE));
+            view.tellPlace(land.booths.get(booth, BOOTH_PLACE));
             view.tell(W_PAPERS, figure(booth, PRINTED));
             view.tell(W_GIVEN, figure(booth, GIVEN));
             view.tell(W_PUT, put[booth]);
