@@ -2415,6 +2415,8 @@ public final class FirstPolls {
         private final Wishes wishes;
         // By a stop (a WISH, or FROM) and a WISH: how many DAYS the way takes.
         private final int[] ways = new int[STOPS * WISHES];
+        // By set of WISHES been to and the last of them: the earliest DAY of its poll so far.
+        private final int[] earliest = new int[SETS * WISHES];
         private final int[] going = new int[WISHES];
         private final int[] polls = new int[WISHES];
         private final int[] bestGoing = new int[WISHES];
@@ -2437,6 +2439,7 @@ public final class FirstPolls {
             }
             bestLegs = 0;
             bestDay = DAYS;
+            Arrays.fill(earliest, DAYS);
             goOn(0, FROM, day, 0);
             return bestLegs;
         }
@@ -2454,18 +2457,21 @@ public final class FirstPolls {
             return land.seatOfPlace(a) == land.seatOfPlace(b) ? days : days + land.rivers;
         }
 
-        // Ways come in the order of their rows, so of alike ones the one kept is the first.
+        // Ways come in the order of their rows, so of alike ones the one kept is the first; one
+        // that is not earlier than another with the same WISHES behind it is none to go on with.
         private void goOn(int legs, int stop, int day, int been) {
             if (legs >= WISHES) {
                 return;
             }
             for (int wish = 0; wish < wishes.size(); wish++) {
                 int poll = Math.max(day + ways[stop * WISHES + wish], wishes.first(wish));
-                if ((been & (1 << wish)) == 0 && poll <= wishes.last(wish)) {
+                int all = been | (1 << wish);
+                if (all != been && poll <= wishes.last(wish) && poll < earliest[all * WISHES + wish]) {
+                    earliest[all * WISHES + wish] = poll;
                     going[legs] = wish;
                     polls[legs] = poll;
                     keepIfBetter(legs + 1, poll);
-                    goOn(legs + 1, wish, poll + 1, been | (1 << wish));
+                    goOn(legs + 1, wish, poll + 1, all);
                 }
             }
         }

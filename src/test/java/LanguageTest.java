@@ -42,6 +42,11 @@ public final class LanguageTest {
         none("what depends on the machine", code,
                 "System\\.(?!arraycopy)|Thread|Random|\\.hashCode|\\.toString|\\.equals|new Object");
         none("a sign beyond 127", code, "[^\\x00-\\x7f]");
+        none("a class in a method", code, "^ {8,}.*\\b(class|record|enum|interface)\\b");
+        none("a class without a name", code, "\\bnew \\w+\\([^)]*\\) \\{");
+        none("a loop without an end", code, "while \\(true\\)|for \\([^;]*;\\s*;");
+        none("a static block", code, "static \\{");
+        none("a static row that is changed", code, "DIGITS\\[[^]]*\\] *[-+*/|&^]?=[^=]");
     }
 
     private static void shortMethods(List<String> lines) {
@@ -70,6 +75,38 @@ public final class LanguageTest {
         }
         Check.due("at most twelve classes", all.size() <= 12 ? 1 : 0, 1);
         return all;
+    }
+
+    private static final Set<String> LIBRARY = Set.of("java/lang/Object.<init>()V",
+            "java/util/Arrays.fill([II)V", "java/lang/String.charAt(I)C",
+            "java/lang/System.arraycopy(Ljava/lang/Object;ILjava/lang/Object;II)V",
+            "java/lang/Math.max(II)I", "java/lang/Math.min(II)I", "java/lang/Math.abs(I)I",
+            "java/lang/Integer.bitCount(I)I", "java/lang/Integer.numberOfTrailingZeros(I)I",
+            "java/lang/Integer.numberOfLeadingZeros(I)I");
+
+    /** Rule 4: the compiled classes use their own members and those of the library's list alone. */
+    private static void library() throws Exception {
+        for (Class<?> of : classes()) {
+            ClassFile file = new ClassFile(of);
+            Check.due(of + " has lambdas or joins texts by +", file.isDynamic ? 1 : 0, 0);
+            for (String member : file.used) {
+                boolean fine = member.startsWith("FirstPolls") || LIBRARY.contains(member);
+                Check.due(of + " may use " + member, fine ? 1 : 0, 1);
+            }
+        }
+    }
+
+    /** Rule 3: numbers, rows of numbers, own classes and rows of these. */
+    private static void types() {
+        for (Class<?> of : classes()) {
+            for (Field field : of.getDeclaredFields()) {
+                Class<?> type = field.getType();
+                Class<?> part = type.isArray() ? type.getComponentType() : type;
+                boolean own = part.getName().startsWith("FirstPolls");
+                boolean fine = part.isPrimitive() || own || type == String.class;
+                Check.due(field + " is of a type that may be", fine ? 1 : 0, 1);
+            }
+        }
     }
 
     private static boolean mayBeStatic(Class<?> type) {
@@ -151,6 +188,8 @@ public final class LanguageTest {
         List<String> lines = Files.readAllLines(SOURCE);
         wordsThatAreOut(withoutComments(lines));
         shortMethods(lines);
+        library();
+        types();
         face();
         Check.close("LanguageTest");
     }
