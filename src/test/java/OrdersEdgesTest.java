@@ -203,6 +203,25 @@ public final class OrdersEdgesTest {
         }
     }
 
+    /** "SUM ("<" | ">" | "=") SUM": a SUM stands on both sides. */
+    private static void bothSides() {
+        for (String sign : new String[] {"<", ">", "="}) {
+            fine("on if 1" + sign + "2");
+            faulty("on if 1" + sign, 8);
+            faulty("on if 1" + sign + " ", 9);
+            faulty("on if 1" + sign + ";on", 8);
+            faulty("on if 1" + sign + ")", 8);
+            faulty("on if (1" + sign + ")", 9);
+            faulty("on if 1" + sign + "or 1=1", 8);
+            faulty("on if 1" + sign + sign + "2", 8);
+            faulty("on if 1" + sign + "2" + sign + "3", 9);
+            faulty("on if " + sign + "2", 6);
+        }
+        faulty("on if 1", 7);
+        faulty("on if 1;on", 7);
+        faulty("on if 1 2", 8);
+    }
+
     /** A TEXT that ends too early: FAULT at "the end's: the TEXT's length", wherever it ends. */
     private static void textsThatEnd() {
         String[] tokens = {"most", "[", "age", "+", "1", "]", "*", "2", "if", "not", "(", "late", "or",
@@ -380,6 +399,7 @@ public final class OrdersEdgesTest {
         bytesBehindTheEnd();
         clauses();
         heads();
+        bothSides();
         textsThatEnd();
         numbers();
         fiftyLeaves();

@@ -335,6 +335,11 @@ public final class WaysEdgesTest {
 
     private static FirstPolls land() {
         FirstPolls x = new FirstPolls();
+        fill(x);
+        return x;
+    }
+
+    private static void fill(FirstPolls x) {
         x.place(0, 0, 0);
         x.place(1, 30, 0);
         Check.orders(x, 0, "on;void 9;most 50;again if broken;few 5");
@@ -351,7 +356,30 @@ public final class WaysEdgesTest {
         x.wish(1);
         x.booths(0, 0);
         x.way(0, 0);
-        return x;
+    }
+
+    /** Back to a land where nothing was told, nothing is left; and all can be told again. */
+    private static void backToNothing() {
+        FirstPolls x = new FirstPolls();
+        x.image(1);
+        fill(x);
+        String was = Seen.of(x);
+        Check.due("two are alike", x.twice(0, 0, NONE), 1);
+        for (int round = 0; round < 3; round++) {
+            Check.accepted(x, "back", x.back(1), 0);
+            Check.due("nobody is", x.twice(0, 0, NONE), 0);
+            x.clear();
+            Check.due("booths", x.booths(0, 0), 0);
+            Check.due("no place to go from", x.way(0, 0), NONE);
+            x.place(0, 0, 0);
+            Check.due("no wish to go to", x.way(0, 0), 0);
+            x.back(1);
+            FirstPolls y = new FirstPolls();
+            y.booths(0, 0);
+            Check.due("as a new one", Seen.of(x).equals(Seen.of(y)) ? 1 : 0, 1);
+            fill(x);
+            Check.due("as it was", Seen.of(x).equals(was) ? 1 : 0, 1);
+        }
     }
 
     private interface Change {
@@ -454,6 +482,7 @@ public final class WaysEdgesTest {
         notFound();
         allTellings();
         images();
+        backToNothing();
         imagesOfSeals();
         whatImagesDoNotKeep();
         Check.close("WaysEdgesTest");
