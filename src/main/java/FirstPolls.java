@@ -1121,10 +1121,10 @@ public final class FirstPolls {
         private final int[] tape = new int[TAPE];
         private int length = 0;
         private int fault = NONE;
-        // The TOKENS of the TEXT that is read, the end as the last.
-        private final int[] kinds = new int[TAPE + 1];
-        private final int[] numbers = new int[TAPE + 1];
-        private final int[] starts = new int[TAPE + 1];
+        // The TOKENS of the TEXT that is read; behind the last of them is the end.
+        private final int[] kinds = new int[TAPE];
+        private final int[] numbers = new int[TAPE];
+        private final int[] starts = new int[TAPE];
         private int tokens = 0;
         private int at = 0;
         private int leaves = 0;
@@ -1184,14 +1184,13 @@ public final class FirstPolls {
 
         /** What was read becomes a TEXT, or is dropped again; the TAPE is empty then. */
         void close(boolean read, int from) {
+            fault = read ? NONE : startHere();
             length = 0;
             if (!read) {
                 land.clauses.cutTo(firstClause);
                 land.steps.cutTo(firstStep);
-                fault = starts[at];
                 return;
             }
-            fault = NONE;
             int text = land.texts.add();
             land.texts.set(text, TEXT_FROM, from);
             land.texts.set(text, TEXT_FIRST, firstClause);
@@ -1205,7 +1204,7 @@ public final class FirstPolls {
             int place = 0;
             while (place < length) {
                 int stop = Math.max(runEnd(place), place + 1);
-                if (tape[place] != ' ') {
+                if (tape[place] != ' ' && tokens < TAPE) {
                     starts[tokens] = place;
                     kinds[tokens] = kindOf(place, stop);
                     numbers[tokens] = numberOf(place, stop);
@@ -1213,9 +1212,6 @@ public final class FirstPolls {
                 }
                 place = stop;
             }
-            starts[tokens] = length;
-            kinds[tokens] = T_END;
-            numbers[tokens] = 0;
         }
 
         private int runEnd(int place) {
@@ -1270,11 +1266,23 @@ public final class FirstPolls {
         }
 
         private boolean takes(int kind) {
-            if (at >= tokens || kinds[at] != kind) {
+            if (kindHere() != kind) {
                 return false;
             }
             at++;
             return true;
+        }
+
+        private int kindHere() {
+            return at >= 0 && at < tokens ? kinds[at] : T_END;
+        }
+
+        private int numberHere() {
+            return at >= 0 && at < tokens ? numbers[at] : 0;
+        }
+
+        private int startHere() {
+            return at >= 0 && at < tokens ? starts[at] : length;
         }
 
         // ---- CLAUSES ----
@@ -1284,7 +1292,7 @@ public final class FirstPolls {
                 if (!readClause()) {
                     return false;
                 }
-                if (kinds[at] == T_END) {
+                if (kindHere() == T_END) {
                     return true;
                 }
                 if (!takes(T_SIGN + ';')) {
@@ -1295,7 +1303,7 @@ public final class FirstPolls {
         }
 
         private boolean readClause() {
-            int head = kinds[at];
+            int head = kindHere();
             if (head > W_STRIKE) {
                 return false;
             }
@@ -1317,10 +1325,10 @@ public final class FirstPolls {
         }
 
         private boolean readNumber(int clause, int column, int most) {
-            if (kinds[at] != T_NUMBER || numbers[at] > most) {
+            if (kindHere() != T_NUMBER || numberHere() > most) {
                 return false;
             }
-            land.clauses.set(clause, column, numbers[at]);
+            land.clauses.set(clause, column, numberHere());
             at++;
             return true;
         }
@@ -1360,7 +1368,7 @@ public final class FirstPolls {
         }
 
         private int joinAt(int level) {
-            switch (kinds[at]) {
+            switch (kindHere()) {
                 case W_OR:
                     return level == ANY_OF ? DO_OR : NONE;
                 case W_AND:
@@ -1399,10 +1407,10 @@ public final class FirstPolls {
                 turned = !turned;
             }
             boolean read;
-            if (kinds[at] == T_SIGN + '(') {
+            if (kindHere() == T_SIGN + '(') {
                 read = readBracket(ANY_OF, T_SIGN + ')', depth);
-            } else if (kinds[at] >= W_WIFE && kinds[at] <= W_BROKEN) {
-                read = readLeaf(DO_WORD, kinds[at]);
+            } else if (kindHere() >= W_WIFE && kindHere() <= W_BROKEN) {
+                read = readLeaf(DO_WORD, kindHere());
             } else {
                 read = readCompared(depth);
             }
@@ -1417,11 +1425,11 @@ public final class FirstPolls {
                 return false;
             }
             int step = DO_SAME;
-            if (kinds[at] == T_SIGN + '<') {
+            if (kindHere() == T_SIGN + '<') {
                 step = DO_BELOW;
-            } else if (kinds[at] == T_SIGN + '>') {
+            } else if (kindHere() == T_SIGN + '>') {
                 step = DO_ABOVE;
-            } else if (kinds[at] != T_SIGN + '=') {
+            } else if (kindHere() != T_SIGN + '=') {
                 return false;
             }
             at++;
@@ -1433,13 +1441,13 @@ public final class FirstPolls {
         }
 
         private boolean readPart(int depth) {
-            if (kinds[at] == T_SIGN + '[') {
+            if (kindHere() == T_SIGN + '[') {
                 return readBracket(SUM, T_SIGN + ']', depth);
             }
-            if (kinds[at] == T_NUMBER) {
-                return numbers[at] <= NUMBERS && readLeaf(DO_NUMBER, numbers[at]);
+            if (kindHere() == T_NUMBER) {
+                return numberHere() <= NUMBERS && readLeaf(DO_NUMBER, numberHere());
             }
-            return kinds[at] >= W_AGE && kinds[at] <= W_LOST && readLeaf(DO_WORD, kinds[at]);
+            return kindHere() >= W_AGE && kindHere() <= W_LOST && readLeaf(DO_WORD, kindHere());
         }
 
         private boolean readBracket(int level, int close, int depth) {
@@ -2241,27 +2249,34 @@ public final class FirstPolls {
     }
 
     /**
-     * BOOTHS on paper. A sum of ways and the row of who is led where are one number (ways times
-     * ROWS, and the row's digits by sevens, the first WISH highest), so that the least number is
-     * the least sum and then the first row; such numbers of parts add up.
+     * BOOTHS on paper. A sum of ways, the BOOTHS' bits and the row of who is led where are one
+     * number (the row's digits by sevens, the first WISH highest), so that the least number is
+     * the least sum, then the lowest bits, then the first row; such numbers of parts add up.
      */
     private static final class Siting {
         private static final int[] DIGITS = {1, 7, 49, 343, 2401, 16807, 117649};
-        private static final int ROWS = 823543;
-        private static final int CANNOT = 2_000_000_000;
+        private static final long ROWS = 823_543;
+        private static final long MILE = SETS * ROWS;
+        private static final long CANNOT = 1_000_000_000_000_000L;
+        private static final int BOUNDS = WISHES + 1;
 
         private final Land land;
         private final View view;
         private final Wishes wishes;
         // By BOOTH and set of WISHES: all of these led to that one.
-        private final int[] alone = new int[WISHES * SETS];
-        // By set of BOOTHS and set of WISHES: the least for all of these.
-        private final int[] least = new int[SETS * SETS];
+        private final long[] alone = new long[WISHES * SETS];
+        // By how many BOOTHS, a bound that they are below, and set of WISHES: the least of these.
+        private final long[] least = new long[BOUNDS * BOUNDS * SETS];
+        // By set of WISHES: the least with such of the judged BOOTHS as were let in.
+        private final long[] judged = new long[SETS];
         private final int[] latestRow = new int[WISHES];
         private int latestSize = 0;
         private int latestWays = NONE;
-        private final int[] names = new int[WISHES];
+        // By set of WISHES: how many NAMES are ON there.
+        private final int[] names = new int[SETS];
         private final int[] fars = new int[WISHES];
+        // By WISH: what it adds if it is led to the BOOTH that is reckoned.
+        private final long[] leads = new long[WISHES];
 
         Siting(Land land, View view, Wishes wishes) {
             this.land = land;
@@ -2271,31 +2286,30 @@ public final class FirstPolls {
 
         /** The best set of BOOTHS as bits, kept as the latest; NONE, and the latest stays. */
         int choose() {
-            int size = wishes.size();
-            if (size == 0) {
-                return keepLatest(0, 0);
+            if (manyWishes() == 0) {
+                return keepLatest(0);
             }
-            for (int many = 1; many <= size; many++) {
-                int best = bestOf(many);
-                if (best != NONE) {
-                    return keepLatest(best, leastOfAll(best));
+            for (int many = 1; many <= manyWishes(); many++) {
+                long best = leastOfAll(many);
+                if (best < CANNOT) {
+                    return keepLatest(best);
                 }
-                fillAll(many);
+                fill(many);
             }
             return NONE;
         }
 
         /** The least sum of ways with just these BOOTHS, or NONE. */
         int waysOf(int bits) {
-            int built = 0;
-            for (int booth = 0; booth < wishes.size(); booth++) {
+            Arrays.fill(judged, CANNOT);
+            judged[0] = 0;
+            for (int booth = 0; booth < manyWishes(); booth++) {
                 if ((bits & (1 << booth)) != 0) {
-                    built |= 1 << booth;
-                    fill(built);
+                    letIn(booth);
                 }
             }
-            int number = leastOfAll(built);
-            return number == CANNOT ? NONE : number / ROWS;
+            long number = judged[allWishes()];
+            return number < CANNOT ? (int) (number / MILE) : NONE;
         }
 
         int latest(int wish) {
@@ -2305,104 +2319,126 @@ public final class FirstPolls {
             return wish >= 0 && wish < latestSize ? latestRow[wish] : NONE;
         }
 
-        private int keepLatest(int bits, int number) {
-            latestSize = Math.min(wishes.size(), WISHES);
-            latestWays = number / ROWS;
+        private int keepLatest(long number) {
+            latestSize = manyWishes();
+            latestWays = (int) (number / MILE);
             for (int wish = 0; wish < latestSize; wish++) {
-                latestRow[wish] = number / DIGITS[latestSize - 1 - wish] % WISHES;
+                latestRow[wish] = (int) (number / digitOf(wish) % WISHES);
             }
-            return bits;
+            return (int) (number / ROWS % SETS);
         }
 
-        /** Reckons what each BOOTH by itself can have, ahead of choose() and waysOf(). */
+        private int manyWishes() {
+            return Math.min(wishes.size(), WISHES);
+        }
+
+        private int allWishes() {
+            return (1 << manyWishes()) - 1;
+        }
+
+        private int digitOf(int wish) {
+            int at = manyWishes() - 1 - wish;
+            return at >= 0 && at < DIGITS.length ? DIGITS[at] : 1;
+        }
+
+        // ---- what each BOOTH by itself can have, reckoned ahead of choose() and waysOf() ----
+
         void leadAlone() {
-            int size = Math.min(wishes.size(), WISHES);
-            for (int wish = 0; wish < size; wish++) {
-                names[wish] = view.namesAt(wishes.at(wish));
+            for (int wish = 0; wish < manyWishes(); wish++) {
                 fars[wish] = view.ruledAt(wishes.at(wish), W_FAR);
             }
-            for (int booth = 0; booth < size; booth++) {
-                int most = view.ruledAt(wishes.at(booth), W_MOST);
-                alone[booth * SETS] = 0;
-                for (int set = 1; set < (1 << size); set++) {
-                    alone[booth * SETS + set] = leadTo(booth, set, most);
+            int all = allWishes();
+            for (int set = 1; set <= all; set++) {
+                int wish = Integer.numberOfTrailingZeros(set);
+                names[set] = names[set & (set - 1)] + view.namesAt(wishes.at(wish));
+            }
+            for (int booth = 0; booth < manyWishes(); booth++) {
+                for (int wish = 0; wish < manyWishes(); wish++) {
+                    leads[wish] = leadOne(wish, booth);
                 }
+                leadAll(booth, view.ruledAt(wishes.at(booth), W_MOST));
             }
         }
 
-        // By what the set without its lowest WISH has.
-        private int leadTo(int booth, int set, int most) {
-            int wish = Integer.numberOfTrailingZeros(set);
-            int rest = alone[booth * SETS + (set & (set - 1))];
+        private long leadOne(int wish, int booth) {
             int way = land.distance(wishes.at(wish), wishes.at(booth));
-            if (rest == CANNOT || way > fars[wish] || namesIn(set) > most) {
-                return CANNOT;
-            }
-            return rest + way * ROWS + booth * DIGITS[wishes.size() - 1 - wish];
+            return way > fars[wish] ? CANNOT : way * MILE + booth * digitOf(wish);
         }
 
-        private int namesIn(int set) {
-            int sum = 0;
-            for (int wish = 0; wish < WISHES; wish++) {
-                if ((set & (1 << wish)) != 0) {
-                    sum += names[wish];
-                }
+        // Each set by what the set without its lowest WISH has.
+        private void leadAll(int booth, int most) {
+            int all = allWishes();
+            alone[booth * SETS] = ROWS << booth;
+            for (int set = 1; set <= all; set++) {
+                long rest = alone[booth * SETS + (set & (set - 1))];
+                long number = rest + leads[Integer.numberOfTrailingZeros(set)];
+                alone[booth * SETS + set] = names[set] > most ? CANNOT : Math.min(number, CANNOT);
             }
-            return sum;
         }
 
-        private int bestOf(int many) {
-            int best = NONE;
-            int bestWays = CANNOT / ROWS;
-            for (int booths = 1; booths < (1 << wishes.size()); booths++) {
-                int ways = Integer.bitCount(booths) == many ? leastOfAll(booths) / ROWS : bestWays;
-                if (ways < bestWays) {
-                    best = booths;
-                    bestWays = ways;
-                }
+        // ---- what some of them together can have ----
+
+        private long leastOfAll(int many) {
+            long best = CANNOT;
+            for (int highest = many - 1; highest < manyWishes(); highest++) {
+                best = Math.min(best, leastBy(many, highest, allWishes()));
             }
             return best;
         }
 
-        private void fillAll(int many) {
-            for (int booths = 1; booths < (1 << wishes.size()); booths++) {
-                if (Integer.bitCount(booths) == many) {
-                    fill(booths);
+        private void fill(int many) {
+            int all = allWishes();
+            for (int bound = 0; bound <= manyWishes(); bound++) {
+                for (int set = 0; set <= all; set++) {
+                    least[placeOf(many, bound, set)] = leastBelow(many, bound, set);
                 }
             }
         }
 
-        private void fill(int booths) {
-            for (int set = 0; set < (1 << wishes.size()); set++) {
-                least[booths * SETS + set] = leastOf(booths, set);
-            }
+        private static int placeOf(int many, int bound, int set) {
+            return (many * BOUNDS + bound) * SETS + set;
         }
 
-        private int leastOfAll(int booths) {
-            return leastOf(booths, (1 << wishes.size()) - 1);
+        // By what stands filled for the bound just below.
+        private long leastBelow(int many, int bound, int set) {
+            if (bound < many) {
+                return CANNOT;
+            }
+            return Math.min(least[placeOf(many, bound - 1, set)], leastBy(many, bound - 1, set));
         }
 
-        // By the highest BOOTH and what the set of the others, filled before, has.
-        private int leastOf(int booths, int set) {
-            if (booths <= 0 || booths >= SETS || set < 0 || set >= SETS) {
-                return set == 0 ? 0 : CANNOT;
+        // The highest BOOTH has a part of the set, and one BOOTH fewer, below it, the others.
+        private long leastBy(int many, int highest, int set) {
+            if (many == 1) {
+                return set == 0 ? CANNOT : alone[highest * SETS + set];
             }
-            int highest = 31 - Integer.numberOfLeadingZeros(booths);
-            int others = booths ^ (1 << highest);
-            if (others == 0) {
-                return alone[highest * SETS + set];
-            }
-            int best = least[others * SETS + set];
+            long best = CANNOT;
+            int others = placeOf(many - 1, highest, 0);
             int part = set;
             while (part > 0) {
-                int here = alone[highest * SETS + part];
-                int there = least[others * SETS + (set ^ part)];
-                if (here < best && there < best) {
-                    best = Math.min(best, here + there);
+                long here = alone[highest * SETS + part];
+                if (here < best && here + least[others + (set ^ part)] < best) {
+                    best = here + least[others + (set ^ part)];
                 }
                 part = (part - 1) & set;
             }
             return best;
+        }
+
+        // From the greatest set on, for those within a set must still be without the BOOTH.
+        private void letIn(int booth) {
+            for (int set = allWishes(); set > 0; set--) {
+                long best = judged[set];
+                int part = set;
+                while (part > 0) {
+                    long here = alone[booth * SETS + part];
+                    if (here < best && here + judged[set ^ part] < best) {
+                        best = here + judged[set ^ part];
+                    }
+                    part = (part - 1) & set;
+                }
+                judged[set] = best;
+            }
         }
     }
 

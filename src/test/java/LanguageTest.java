@@ -78,9 +78,11 @@ public final class LanguageTest {
     }
 
     private static final Set<String> LIBRARY = Set.of("java/lang/Object.<init>()V",
-            "java/util/Arrays.fill([II)V", "java/lang/String.charAt(I)C",
+            "java/util/Arrays.fill([II)V", "java/util/Arrays.fill([JJ)V",
+            "java/lang/String.charAt(I)C",
             "java/lang/System.arraycopy(Ljava/lang/Object;ILjava/lang/Object;II)V",
-            "java/lang/Math.max(II)I", "java/lang/Math.min(II)I", "java/lang/Math.abs(I)I",
+            "java/lang/Math.max(II)I", "java/lang/Math.min(II)I", "java/lang/Math.min(JJ)J",
+            "java/lang/Math.abs(I)I",
             "java/lang/Integer.bitCount(I)I", "java/lang/Integer.numberOfTrailingZeros(I)I",
             "java/lang/Integer.numberOfLeadingZeros(I)I");
 
