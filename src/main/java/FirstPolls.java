@@ -2388,7 +2388,7 @@ public final class FirstPolls {
 
         private void fill(int many) {
             int all = allWishes();
-            for (int bound = 0; bound <= manyWishes(); bound++) {
+            for (int bound = 0; bound < manyWishes(); bound++) {
                 for (int set = 0; set <= all; set++) {
                     least[placeOf(many, bound, set)] = leastBelow(many, bound, set);
                 }
